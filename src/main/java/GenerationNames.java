@@ -7,6 +7,8 @@ public final class GenerationNames {
 
     private static final int GROUPS = 6;
     private static final int MOST_KEPT = 8;
+    /** The bits of a serial that are its index in a row of MOST_KEPT. */
+    private static final int INDEX_BITS = MOST_KEPT - 1;
     private static final int FIRST_KEEP = 3;
     private static final int LAST_NUMBER = 99;
     private static final int MOST_DATA = 9999;
@@ -252,9 +254,9 @@ public final class GenerationNames {
         int deleted = 0;
         /** The serial that the name 0 tells while a job runs. */
         int newestForJob = 0;
-        /** The serial that the name +1 tells while a job runs, 0 if the job made none. */
+        /** The serial that the name +1 tells while a job runs, 0 if the job made none; without a job it means nothing. */
         int madeByJob = 0;
-        /** NONE in a hole. This and the next two are by indexOf(serial). */
+        /** NONE in a hole. This and the next two are by serial & INDEX_BITS. */
         final int[] data = new int[MOST_KEPT];
         final int[] reads = new int[MOST_KEPT];
         final int[] jobs = new int[MOST_KEPT];
@@ -272,10 +274,6 @@ public final class GenerationNames {
             System.arraycopy(other.jobs, 0, jobs, 0, MOST_KEPT);
         }
 
-        int indexOf(int serial) {
-            return Math.floorMod(serial, MOST_KEPT);
-        }
-
         int numberOf(int serial) {
             return serial < 1 ? 0 : (serial - 1) % LAST_NUMBER + 1;
         }
@@ -285,7 +283,7 @@ public final class GenerationNames {
         }
 
         boolean isHole(int serial) {
-            return data[indexOf(serial)] == NONE;
+            return data[serial & INDEX_BITS] == NONE;
         }
 
         /** Whether it is there, and not as a hole. */
@@ -316,36 +314,31 @@ public final class GenerationNames {
 
         int make(int content, int job) {
             // The room is made first: the new one uses an index again that an older one had.
-            rollOffTo(keep - 1);
+            leaveMost(keep - 1);
             newest++;
             size++;
-            int index = indexOf(newest);
+            int index = newest & INDEX_BITS;
             data[index] = content;
             reads[index] = 0;
             jobs[index] = job;
+            madeByJob = newest;
             return newest;
         }
 
-        void rollOffTo(int most) {
-            while (size > most && size > 0) {
+        /** The oldest ones go: those that are too many roll off, and holes go in any case, without rolling off. */
+        void leaveMost(int most) {
+            while (size > 0 && (size > most || isHole(oldest()))) {
                 if (!isHole(oldest())) {
                     rolledOff++;
                 }
                 size--;
             }
-            dropOldestHoles();
-        }
-
-        void dropOldestHoles() {
-            while (size > 0 && isHole(oldest())) {
-                size--;
-            }
         }
 
         void makeHole(int serial) {
-            data[indexOf(serial)] = NONE;
+            data[serial & INDEX_BITS] = NONE;
             deleted++;
-            dropOldestHoles();
+            leaveMost(keep);
         }
 
         int countHoles() {
@@ -362,7 +355,7 @@ public final class GenerationNames {
             int sum = 0;
             for (int serial = oldest(); serial <= newest; serial++) {
                 if (!isHole(serial)) {
-                    sum += data[indexOf(serial)];
+                    sum += data[serial & INDEX_BITS];
                 }
             }
             return sum;
@@ -374,6 +367,7 @@ public final class GenerationNames {
         final Group[] groups = new Group[GROUPS];
         int jobsBegun = 0;
         boolean jobRuns = false;
+        /** Of the last one that ended. */
         boolean lastJobFailed = false;
         int jobsFailed = 0;
         int reads = 0;
@@ -415,8 +409,13 @@ public final class GenerationNames {
             Group row = groups[group];
             int previous = row.keep;
             row.keep = keep;
-            row.rollOffTo(keep);
+            row.leaveMost(keep);
             return previous;
+        }
+
+        /** What a job makes of a group is its newest one as long as the job runs: no other can be made then. */
+        boolean hasNewestOfJob(Group row) {
+            return jobRuns && row.madeByJob != 0;
         }
 
         int writeByName(int group, int name, int data) {
@@ -427,22 +426,14 @@ public final class GenerationNames {
                 return BAD_VALUE;
             }
             Group row = groups[group];
-            if (name == NEW_NAME && !(jobRuns && row.madeByJob != 0)) {
-                return makeNew(row, data);
+            if (name == NEW_NAME && !hasNewestOfJob(row)) {
+                return row.numberOf(row.make(data, jobRuns ? jobsBegun : 0));
             }
             int serial = row.serialOf(name, jobRuns);
             if (!row.isThere(serial)) {
                 return NOT_POSSIBLE;
             }
-            row.data[row.indexOf(serial)] = data;
-            return row.numberOf(serial);
-        }
-
-        int makeNew(Group row, int data) {
-            int serial = row.make(data, jobRuns ? jobsBegun : 0);
-            if (jobRuns) {
-                row.madeByJob = serial;
-            }
+            row.data[serial & INDEX_BITS] = data;
             return row.numberOf(serial);
         }
 
@@ -460,7 +451,7 @@ public final class GenerationNames {
                 vainReads++;
                 return NONE;
             }
-            int index = row.indexOf(serial);
+            int index = serial & INDEX_BITS;
             row.reads[index]++;
             return row.data[index];
         }
@@ -504,7 +495,6 @@ public final class GenerationNames {
                 groups[g].madeByJob = 0;
             }
             jobRuns = true;
-            lastJobFailed = false;
             jobsBegun++;
             return jobsBegun;
         }
@@ -516,22 +506,18 @@ public final class GenerationNames {
             if (!jobRuns) {
                 return NOT_POSSIBLE;
             }
-            if (well == 0) {
-                deleteWhatJobMade();
+            lastJobFailed = well == 0;
+            if (lastJobFailed) {
                 jobsFailed++;
             }
-            int there = countMadeByJob();
-            jobRuns = false;
-            lastJobFailed = well == 0;
-            return there;
-        }
-
-        void deleteWhatJobMade() {
             for (int g = 0; g < GROUPS; g++) {
-                if (groups[g].isThere(groups[g].madeByJob)) {
+                if (lastJobFailed && groups[g].isThere(groups[g].madeByJob)) {
                     groups[g].makeHole(groups[g].madeByJob);
                 }
             }
+            int there = countMadeByJob();
+            jobRuns = false;
+            return there;
         }
 
         int countMadeByJob() {
@@ -575,7 +561,7 @@ public final class GenerationNames {
             }
             Group row = groups[group];
             int serial = row.newest - place;
-            int index = row.indexOf(serial);
+            int index = serial & INDEX_BITS;
             switch (what) {
                 case 0:
                     return row.numberOf(serial);
@@ -668,11 +654,6 @@ public final class GenerationNames {
             }
         }
 
-        /** What a job makes of a group is its newest one as long as the job runs: no other can be made then. */
-        boolean hasNewestOfJob(Group row) {
-            return jobRuns && row.madeByJob != 0;
-        }
-
         /** The oldest one is never a hole, so what rolls off is a generation with data. */
         int numberThatRolls(int group) {
             if (!isGroup(group)) {
@@ -763,7 +744,7 @@ public final class GenerationNames {
         }
 
         /** Returns what may stand behind a character at such a place, WRONG if the character can't stand there. */
-        int placeBehind(int place, char sign) {
+        int placeBehind(int place, int sign) {
             switch (place) {
                 case ORDER:
                     return placeBehindLetter(sign);
@@ -794,7 +775,7 @@ public final class GenerationNames {
             }
         }
 
-        int placeBehindLetter(char sign) {
+        int placeBehindLetter(int sign) {
             switch (sign) {
                 case 'j':
                 case 'g':
@@ -811,14 +792,14 @@ public final class GenerationNames {
             }
         }
 
-        int placeBehindName(char sign, int behindMinus, int behindName) {
+        int placeBehindName(int sign, int behindMinus, int behindName) {
             if (sign == '-') {
                 return behindMinus;
             }
             return sign == '0' || sign == '+' ? behindName : WRONG;
         }
 
-        int placeBehindOrder(char sign) {
+        int placeBehindOrder(int sign) {
             return sign == ';' ? ORDER : WRONG;
         }
 

@@ -48,7 +48,7 @@ public final class PromiseTest {
             case 18: wipe(due); break;
             case 19: fault(due); faultAtEachSign(due); break;
             case 20: carryOut(due); carryOutStops(due); break;
-            case 21: undo(due); undoOfEachChange(due); errorsRecordNothing(due); break;
+            case 21: undo(due); undoOfEachChange(due); undoIntoJobs(due); undoOfEachAnswer(due); errorsRecordNothing(due); break;
             case 22: save(due); break;
             case 23: restore(due); restoreKeepsTheRest(due); break;
             default: due.holds("a test", false); break;
@@ -84,6 +84,9 @@ public final class PromiseTest {
         GenerationNames other = with(0, 5);
         due.is("an object of its own", x.named(0, 0), NONE);
         due.is("the other", other.named(0, 0), 1);
+        GenerationNames first = new GenerationNames();
+        first.begin();
+        due.is("no name in a first job", first.named(0, 1), NONE);
     }
 
     private static void keep(Due due) {
@@ -153,6 +156,11 @@ public final class PromiseTest {
         x.read(0, 0);
         x.write(0, 0, 44);
         due.is("a write leaves the reads", x.generation(0, 0, 3), 1);
+        for (int i = 0; i < 9; i++) {
+            x.write(0, 1, i);
+            due.is("a new one was not read", x.generation(0, 0, 3), 0);
+            x.read(0, 0);
+        }
     }
 
     private static void writeInJob(Due due) {
@@ -552,6 +560,14 @@ public final class PromiseTest {
         due.is("with holes", x.groups(0), 2 + 4);
         due.is("the newest is the job's, also a hole", x.groups(1), 1 + 4);
         due.is("0 tells nothing", x.groups(2), 2 + 8 + 32);
+        x.undo();
+        x.undo();
+        x.undo();
+        due.is("also the only one", x.groups(1), 1 + 4);
+        x.write(5, 1, 1);
+        due.is("as long as it is there", x.groups(1), 1 + 4 + 32);
+        x.delete(5, 1);
+        x.delete(3, 0);
         x.end(1);
         due.is("no job", x.groups(1), 0);
         due.is("0 tells nothing now", x.groups(2), 2 + 4 + 8 + 32);
@@ -759,6 +775,7 @@ public final class PromiseTest {
         for (int i = 1; i <= 8; i++) {
             x.write(0, 1, i);
             due.is("can be undone", x.count(9), Math.min(i, 6));
+            due.is("an error between", x.again(), NOT_POSSIBLE);
         }
         for (int i = 5; i >= 0; i--) {
             due.is("undo", x.undo(), i);
@@ -809,6 +826,95 @@ public final class PromiseTest {
         x.keep(3, 3);
         x.undo();
         due.is("also if nothing is different", x.count(0), 2);
+    }
+
+    private static void undoIntoJobs(Due due) {
+        GenerationNames x = with(0, 10, 20);
+        x.begin();
+        x.write(0, 1, 30);
+        x.end(1);
+        x.begin();
+        x.undo();
+        x.undo();
+        due.is("the job knows its own", x.named(0, 1), 3);
+        due.is("and its names", x.named(0, 0), 2);
+        due.is("the job that made it", x.generation(0, 0, 4), 1);
+        due.is("a write of its own", x.write(0, 1, 31), 3);
+        x.undo();
+        x.undo();
+        due.is("it made none yet", x.named(0, 1), NONE);
+        due.is("then it does", x.write(0, 1, 32), 3);
+        x.read(0, -7);
+        x.undo();
+        due.is("reads in vain", x.count(6), 0);
+        x.write(0, 0, 1);
+        x.end(1);
+        for (int i = 0; i < 5; i++) {
+            x.write(0, 1, i);
+        }
+        x.undo();
+        due.is("without a job it is told which one made what", x.generation(0, 0, 4), 0);
+        x = new GenerationNames();
+        x.keep(0, 8);
+        x.begin();
+        x.write(0, 1, 0);
+        x.end(0);
+        x.again();
+        x.write(0, 1, 1);
+        x.end(1);
+        for (int i = 0; i < 8; i++) {
+            x.write(0, 1, i);
+        }
+        x.undo();
+        due.is("the job of one that rolled off", x.generation(0, 7, 4), 2);
+        x.begin();
+        x.end(0);
+        x.begin();
+        x.end(1);
+        due.is("ended well", x.again(), NOT_POSSIBLE);
+        x.undo();
+        x.undo();
+        due.is("the last one failed then", x.again(), 4);
+    }
+
+    /** Undoes each kind of change, with the one before it having changed the same. */
+    private static void undoOfEachAnswer(Due due) {
+        GenerationNames x = with(0, 10, 20, 30);
+        for (int i = 0; i < 10; i++) {
+            x.keep(0, 3 + i % 3);
+            x.keep(0, 8);
+            x.undo();
+            due.is("keep", x.ofGroup(0, 0), 3 + i % 3);
+            x.write(0, 0, 100 + i);
+            x.write(0, 0, 200 + i);
+            x.undo();
+            due.is("write", x.generation(0, 0, 1), 100 + i);
+            x.read(0, 0);
+            x.read(0, 0);
+            x.undo();
+            due.is("read", x.generation(0, 0, 3), 1);
+            due.is("all reads", x.count(5), 1 + i);
+            x.write(0, 0, 250 + i);
+            x.begin();
+            x.undo();
+            due.is("begin", x.count(0), i);
+            due.is("not what was before it", x.generation(0, 0, 1), 250 + i);
+            x.begin();
+            x.write(0, 1, 300);
+            x.delete(0, 1);
+            x.undo();
+            due.is("delete", x.named(0, 1) > 0 ? 1 : 0, 1);
+            x.end(1);
+            x.put('j');
+            x.carryOut();
+            x.undo();
+            due.is("carryOut", x.count(0), i + 1);
+            x.save(0);
+            x.write(0, 0, 400);
+            x.restore(0);
+            x.undo();
+            due.is("restore", x.generation(0, 0, 1), 400);
+        }
     }
 
     private static void errorsRecordNothing(Due due) {
