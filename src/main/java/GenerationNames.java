@@ -343,8 +343,8 @@ public final class GenerationNames {
 
         int countHoles() {
             int holes = 0;
-            for (int serial = oldest(); serial <= newest; serial++) {
-                if (isHole(serial)) {
+            for (int place = 0; place < size; place++) {
+                if (isHole(newest - place)) {
                     holes++;
                 }
             }
@@ -353,9 +353,9 @@ public final class GenerationNames {
 
         int sumOfData() {
             int sum = 0;
-            for (int serial = oldest(); serial <= newest; serial++) {
-                if (!isHole(serial)) {
-                    sum += data[serial & INDEX_BITS];
+            for (int place = 0; place < size; place++) {
+                if (!isHole(newest - place)) {
+                    sum += data[(newest - place) & INDEX_BITS];
                 }
             }
             return sum;

@@ -16,6 +16,14 @@ final class Due {
         }
     }
 
+    void is(String call, String got, String want) {
+        asked++;
+        if (!got.equals(want)) {
+            wrong++;
+            System.out.println(where + ": " + call + " answered '" + got + "', due is '" + want + "'");
+        }
+    }
+
     void holds(String what, boolean so) {
         is(what, so ? 1 : 0, 1);
     }
